@@ -120,7 +120,7 @@ public final class FogKeys {
     }
 
     public boolean write(int tray, int place, long v) {
-        int code = trays.codeOf(tray, place);
+        int code = trays.codeOfPlace(tray, place);
         if (code != 0) {
             return refusedFlag(code);
         }
@@ -129,7 +129,7 @@ public final class FogKeys {
     }
 
     public long read(int tray, int place) {
-        int code = trays.codeOf(tray, place);
+        int code = trays.codeOfPlace(tray, place);
         if (code != 0) {
             return refused(code);
         }
@@ -538,7 +538,7 @@ public final class FogKeys {
     }
 
     public int known(int key, int tray, int n) {
-        int code = codeOfTries(key, key, tray, n);
+        int code = codeOfKey(key, key, tray, n);
         if (code != 0) {
             return refused(code);
         }
@@ -554,7 +554,7 @@ public final class FogKeys {
     }
 
     public boolean chance(int key, int gate, int tray, int n) {
-        int code = codeOfTries(key, gate, tray, n);
+        int code = codeOfKey(key, gate, tray, n);
         if (code != 0) {
             return refusedFlag(code);
         }
@@ -691,7 +691,7 @@ public final class FogKeys {
         return 0;
     }
 
-    private int codeOfTries(int key, int gate, int tray, int n) {
+    private int codeOfKey(int key, int gate, int tray, int n) {
         if (!trays.isTray(tray)) {
             return NO_TRAY;
         }
@@ -729,15 +729,15 @@ public final class FogKeys {
             numbers[tray][place] = cut(v, sorts[tray]);
         }
 
-        int codeOf(int tray) {
+        int codeOfTray(int tray) {
             if (!isTray(tray)) {
                 return NO_TRAY;
             }
             return lengths[tray] < 0 ? IS_MISSING : 0;
         }
 
-        int codeOf(int tray, int place) {
-            int code = codeOf(tray);
+        int codeOfPlace(int tray, int place) {
+            int code = codeOfTray(tray);
             if (code != 0) {
                 return code;
             }
@@ -745,7 +745,7 @@ public final class FogKeys {
         }
 
         int codeOfLength(int tray, int least) {
-            int code = codeOf(tray);
+            int code = codeOfTray(tray);
             if (code != 0) {
                 return code;
             }
@@ -938,7 +938,7 @@ public final class FogKeys {
             int boards = boardCount();
             int count = 0;
             for (int board = 0; board < boards; board++) {
-                if (isFoggy(much, board)) {
+                if (much[board] + much[MOST_BOARDS + board] >= foggyFrom) {
                     count++;
                 }
             }
@@ -1069,10 +1069,12 @@ public final class FogKeys {
         void passHour(Port port, int[] much, int gates) {
             letIn(port, much, gates);
             System.arraycopy(much, 0, was, 0, FOG_PLACES);
-            if (port.windNow == 0) {
-                spread(port, much);
-            } else {
-                blow(port, much);
+            for (int first = 0; first < FOG_PLACES; first += MOST_BOARDS) {
+                if (port.windNow == 0) {
+                    spread(port, much, first);
+                } else {
+                    blow(port, much, first);
+                }
             }
             settle(port, much);
         }
@@ -1088,32 +1090,55 @@ public final class FogKeys {
             }
         }
 
-        private void spread(Port port, int[] much) {
-            int boards = port.boardCount();
-            for (int board = 0; board < boards; board++) {
-                for (int direction = 1; direction <= DIRECTIONS; direction++) {
-                    int to = port.beside(board, direction);
-                    if (to != NONE) {
-                        carry(much, board, to, 8);
+        // Shares are taken of what was there ahead of all drift; only settle() may cut what is too much.
+        private void spread(Port port, int[] much, int first) {
+            int place = first;
+            for (int row = 0; row < port.deep; row++) {
+                for (int column = 0; column < port.wide; column++) {
+                    int share = was[place] / 8;
+                    if (share > 0) {
+                        much[place] -= share * giveAround(port, much, place, column, row, share);
                     }
+                    place++;
                 }
             }
         }
 
-        private void blow(Port port, int[] much) {
-            int boards = port.boardCount();
-            for (int board = 0; board < boards; board++) {
-                carry(much, board, port.beside(board, port.windNow), 4);
+        /** Gives a share to each board beside one; answers to how many. */
+        private int giveAround(Port port, int[] much, int place, int column, int row, int share) {
+            int given = 0;
+            if (column > 0) {
+                much[place - 1] += share;
+                given++;
             }
+            if (column < port.wide - 1) {
+                much[place + 1] += share;
+                given++;
+            }
+            if (row > 0) {
+                much[place - port.wide] += share;
+                given++;
+            }
+            if (row < port.deep - 1) {
+                much[place + port.wide] += share;
+                given++;
+            }
+            return given;
         }
 
-        // Shares are taken of what was there ahead of all drift; only settle() may cut what is too much.
-        private void carry(int[] much, int board, int to, int parts) {
-            for (int first = 0; first < FOG_PLACES; first += MOST_BOARDS) {
-                int share = was[first + board] / parts;
-                much[first + board] -= share;
-                if (to != NONE) {
-                    much[first + to] += share;
+        private void blow(Port port, int[] much, int first) {
+            int columnStep = COLUMN_STEPS[port.windNow];
+            int rowStep = ROW_STEPS[port.windNow];
+            int step = rowStep * port.wide + columnStep;
+            int place = first;
+            for (int row = 0; row < port.deep; row++) {
+                for (int column = 0; column < port.wide; column++) {
+                    int share = was[place] / 4;
+                    much[place] -= share;
+                    if (share > 0 && port.isBoard(column + columnStep, row + rowStep)) {
+                        much[place + step] += share;
+                    }
+                    place++;
                 }
             }
         }
@@ -1137,6 +1162,7 @@ public final class FogKeys {
         private final int[] atTurn = new int[FOG_PLACES];
         // TRADES that no HOUR so far has spoilt.
         private int unspoilt;
+        private int unspoiltPay;
         private int lastHour;
         int bestPay;
         int bestFirst;
@@ -1201,9 +1227,8 @@ public final class FogKeys {
         private void tryPlan(Port port, int set) {
             begin(port);
             follow(port, set, 1, LAST_TRADE_HOUR, bestPay);
-            int pay = port.payOf(unspoilt);
-            if (pay > bestPay) {
-                bestPay = pay;
+            if (unspoiltPay > bestPay) {
+                bestPay = unspoiltPay;
                 bestFirst = set;
             }
         }
@@ -1216,7 +1241,7 @@ public final class FogKeys {
             for (int first = 0; first < sets; first++) {
                 begin(port);
                 follow(port, first, 1, hours, bestPay);
-                if (port.payOf(unspoilt) > bestPay) {
+                if (unspoiltPay > bestPay) {
                     trySeconds(port, first, hours);
                 }
             }
@@ -1224,15 +1249,16 @@ public final class FogKeys {
 
         private void trySeconds(Port port, int first, int hours) {
             int unspoiltAtTurn = unspoilt;
+            int payAtTurn = unspoiltPay;
             System.arraycopy(much, 0, atTurn, 0, FOG_PLACES);
             int sets = 1 << port.gateCount;
             for (int second = 0; second < sets; second++) {
                 System.arraycopy(atTurn, 0, much, 0, FOG_PLACES);
                 unspoilt = unspoiltAtTurn;
+                unspoiltPay = payAtTurn;
                 follow(port, second, hours + 1, LAST_TRADE_HOUR, bestPay);
-                int pay = port.payOf(unspoilt);
-                if (pay > bestPay) {
-                    bestPay = pay;
+                if (unspoiltPay > bestPay) {
+                    bestPay = unspoiltPay;
                     bestFirst = first;
                     bestSecond = second;
                 }
@@ -1242,6 +1268,7 @@ public final class FogKeys {
         private void begin(Port port) {
             System.arraycopy(port.fogNow, 0, much, 0, FOG_PLACES);
             unspoilt = (1 << port.tradeCount) - 1;
+            unspoiltPay = port.payOf(unspoilt);
             lastHour = 0;
             for (int i = 0; i < port.tradeCount; i++) {
                 lastHour = Math.max(lastHour, port.tradeFacts[i * TRADE_FACTS + 3]);
@@ -1251,7 +1278,7 @@ public final class FogKeys {
         // Ends early where what is left can't be more than the floor: such a set is never chosen.
         private void follow(Port port, int gates, int from, int to, int floor) {
             for (int hours = from; hours <= to && hours <= lastHour; hours++) {
-                if (port.payOf(unspoilt) <= floor) {
+                if (unspoiltPay <= floor) {
                     return;
                 }
                 weather.passHour(port, much, gates);
@@ -1262,11 +1289,13 @@ public final class FogKeys {
         private void spoil(Port port, int hours) {
             for (int i = 0; i < port.tradeCount; i++) {
                 int at = i * TRADE_FACTS;
-                if (hours >= port.tradeFacts[at + 2] && hours <= port.tradeFacts[at + 3]) {
+                boolean isNow = hours >= port.tradeFacts[at + 2] && hours <= port.tradeFacts[at + 3];
+                if (isNow && (unspoilt >> i & 1) == 1) {
                     int board = port.boardAt(port.tradeFacts[at], port.tradeFacts[at + 1]);
                     boolean isWantedFoggy = port.tradeFacts[at + 5] == 0;
                     if (port.isFoggy(much, board) != isWantedFoggy) {
                         unspoilt &= ~(1 << i);
+                        unspoiltPay -= port.tradeFacts[at + 4];
                     }
                 }
             }

@@ -211,6 +211,7 @@ public final class DoneTest {
         Kit.due("foggyIn(1)", x.foggyIn(1), 1);
         Kit.due("foggyIn(4)", x.foggyIn(4), 3);
         x.later(0, 0, 48);
+        Kit.due("later(.., 48): status()", x.status(), 0);
         x.foggyIn(48);
         x.thickest(48);
         x.lifts(0, 0);
@@ -268,6 +269,7 @@ public final class DoneTest {
         // 6 2; then 11 5.
         Kit.due("thickest(1)", y.thickest(1), 1);
         Kit.due("thickest(9)", y.thickest(9), 2);
+        Kit.due("the last one", y.thickest(2), 2);
         y.hour(5);
         Kit.due("counted from now on", y.thickest(9), 1);
         Kit.refused("thickest(0)", y, y.thickest(0), 5);
@@ -286,6 +288,11 @@ public final class DoneTest {
         Kit.due("paid()", x.paid(), 19);
         x.open(0, false);
         Kit.due("gates as they are", x.served(), 12);
+        FogKeys late = Kit.ported("port 1 by 1;thins 1;foggy 10;trade a at 0 0 from 1 to 6 pays 1;trade b at 0 0 from 2 to 5 pays 2;");
+        late.breathe(0, 0, 0, 15);
+        Kit.due("spoilt by its last hour", late.served(), 2);
+        late.breathe(0, 0, 0, 1);
+        Kit.due("not spoilt", late.served(), 3);
         Kit.due("paid()", x.paid(), 12);
         Kit.due("status()", x.status(), 0);
     }

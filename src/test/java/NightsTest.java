@@ -46,6 +46,13 @@ public final class NightsTest {
         Kit.due("status()", x.status(), 0);
         FogKeys y = keyed(3, 1, 101);
         Kit.due("two keys, one gate", y.fits(0, 2), 0);
+        FogKeys six = keyed(6, 500, 510, 520, 530, 540, 451);
+        Kit.due("all but one of the last key", six.fits(0, 5), 120);
+        Kit.due("the last gate is taken", six.fits(0, 6), 0);
+        FogKeys each = keyed(6, 1, 111, 221, 331, 440);
+        Kit.due("two are left", each.fits(0, 4), 2);
+        Kit.due("one is left", each.fits(0, 5), 1);
+        Kit.due("the last key", each.known(5, 0, 5), 4);
         FogKeys full = Kit.ported("port 1 by 1;gate a at 0 0 lets 1;");
         full.tray(1, 0, 60);
         for (int i = 0; i < 60; i++) {

@@ -140,6 +140,21 @@ public final class PlansTest {
         FogKeys far = Kit.ported("port 2 by 1;ship a at 0 0 to 1 0;foggy 1;thins 1;gate g at 0 0 lets 1;");
         far.breathe(1, 0, 1, 5);
         Kit.due("sail", far.sail(0), 5);
+        String front = "port 5 by 1;gate g at 0 0 lets 13 open;thins 3;ship a at 0 0 to 4 0 dark;foggy ";
+        FogKeys last = Kit.ported(front + "80;");
+        last.breathe(0, 0, 0, 999);
+        Kit.due("the fog is there by the 48th hour", last.later(4, 0, 48), 80);
+        Kit.due("and not ahead of it", last.later(4, 0, 47), 79);
+        Kit.due("sail of 48", last.sail(0), 48);
+        FogKeys never = Kit.ported(front + "81;");
+        never.breathe(0, 0, 0, 999);
+        Kit.refused("no sail of more than 48", never, never.sail(0), 8);
+        FogKeys top = Kit.ported("port 1 by 2;ship a at 0 0 to 0 1;ship b at 0 1 to 0 0;foggy 9;thins 1;");
+        Kit.due("down", top.sail(0), 1);
+        Kit.due("up", top.sail(1), 1);
+        FogKeys side = Kit.ported("port 2 by 1;ship a at 0 0 to 1 0;ship b at 1 0 to 0 0;foggy 9;thins 1;");
+        Kit.due("right", side.sail(0), 1);
+        Kit.due("left", side.sail(1), 1);
         FogKeys slow = Kit.ported("port 2 by 1;ship a at 0 0 to 1 0 dark;gate g at 0 0 lets 2 open;thins 0;wind 1;foggy 4;");
         slow.breathe(0, 0, 0, 4);
         // 5 1, 6 2, 6 4.
@@ -259,6 +274,9 @@ public final class PlansTest {
         Kit.due("idle(3)", x.idle(3), 0);
         Kit.refused("idle(2)", x, x.idle(2), 8);
         Kit.refused("idle(-1)", x, x.idle(-1), 2);
+        FogKeys first = Kit.ported("port 1 by 1;gate a at 0 0 lets 1 quota 5;holder b votes 4;holder c votes 1;holder d votes 1;");
+        Kit.due("the first has a veto", first.veto(0), 1);
+        Kit.due("none is idle", first.idle(0), 0);
         FogKeys none = Kit.ported("port 1 by 1;gate a at 0 0 lets 1;");
         Kit.refused("no holders at all", none, none.veto(0), 8);
         Kit.refused("no holders at all", none, none.idle(0), 8);

@@ -35,6 +35,10 @@ public final class TextsTest {
         Kit.due("wind", y.many(6), 4);
         Kit.due("thins", y.many(7), 0);
         Kit.due("foggy", y.many(8), 1);
+        FogKeys edge = Kit.ported("port 6 by 5; gate az at 5 4 lets 1 quota 1; holder za votes 20; foggy 99; thins 9; wind 0;"
+            + "trade zz at 5 4 from 24 to 24 pays 99; ship aza at 5 4 to 5 4;");
+        Kit.due("the greatest foggy", edge.many(8), 99);
+        Kit.due("the least quota", edge.gate(0, 4), 1);
         FogKeys z = Kit.ported("port 1 by 1; gate a at 0 0 lets 1;");
         Kit.due("without wind", z.many(6), 0);
         Kit.due("without thins", z.many(7), 1);
@@ -87,6 +91,9 @@ public final class TextsTest {
         Kit.portFault("|12", 2);
         Kit.portFault("port 1 by 1; |hour 1;", 2);
         Kit.portFault("port 1 by 1; |ports", 2);
+        Kit.portFault("|tort 1 by 1;", 2);
+        Kit.portFault("port 1 by 1; |por", 2);
+        Kit.portFault("port 1 by 1; holder a votes 1 |azazaz;", 2);
         Kit.portFault("port 1 by 1; |;", 2);
         Kit.portFault("port|", 2);
         Kit.portFault("port  |", 2);
@@ -384,6 +391,7 @@ public final class TextsTest {
     // Promise 20.
     private static void fogIsCopied() {
         FogKeys x = Kit.ported("port 3 by 2;");
+        x.breathe(0, 0, 1, 3);
         x.breathe(1, 0, 0, 100);
         x.breathe(1, 0, 1, 100);
         x.breathe(0, 1, 1, 999);
@@ -391,7 +399,7 @@ public final class TextsTest {
         x.write(0, 6, 5);
         x.write(0, 5, 5);
         Kit.due("copyFog(0)", x.copyFog(0), 6);
-        long[] due = {0, 200, 0, 999, 0, 0, 5};
+        long[] due = {3, 200, 0, 999, 0, 0, 5};
         for (int i = 0; i < 7; i++) {
             Kit.due("place " + i, x.read(0, i), due[i]);
         }

@@ -155,6 +155,12 @@ public final class TraysTest {
         row("downward within a tray", x, 0, 2, 3, 4, 3, 4);
         Kit.due("pour of none", x.pour(0, 1, 1, 1, 0), true);
         row("none came", x, 1, 0, 4, 5);
+        Kit.due("pour of all", x.pour(1, 0, 0, 2, 3), true);
+        row("all came", x, 0, 2, 3, 0, 4, 5);
+        x.tray(2, 2, 0);
+        Kit.due("pour of none from none", x.pour(2, 0, 0, 5, 0), true);
+        Kit.due("pour of none to none", x.pour(0, 0, 2, 0, 0), true);
+        Kit.refused("pour of one from none", x, x.pour(2, 0, 0, 0, 1), 4);
     }
 
     private static void pourRefusesInOrder() {
