@@ -1646,47 +1646,31 @@ public final class FogKeys {
                 start++;
             }
             end = start;
-            if (start >= length) {
-                kind = END;
-            } else if (isLetter(text[start])) {
-                scanWord();
-            } else if (isDigit(text[start])) {
-                scanNumber();
-            } else {
-                scanSign();
-            }
-        }
-
-        private void scanWord() {
-            kind = WORD;
-            while (end < length && isLetter(text[end])) {
+            value = 0;
+            while (end < length && text[end] >= 'a' && text[end] <= 'z') {
                 end++;
             }
-        }
-
-        private void scanNumber() {
-            value = 0;
-            while (end < length && isDigit(text[end])) {
+            if (end > start) {
+                kind = WORD;
+                return;
+            }
+            while (end < length && text[end] >= '0' && text[end] <= '9') {
+                // Five digits are no NUMBER, so what more of them would count is of no use.
                 if (end - start < LONGEST_NUMBER) {
                     value = value * 10 + text[end] - '0';
                 }
                 end++;
             }
-            kind = end - start > LONGEST_NUMBER ? NO_TOKEN : NUMBER;
-        }
-
-        private void scanSign() {
-            value = text[start];
-            end = start + 1;
-            kind = value == ';' || value == '<' || value == '>' || value == '=' ? SIGN : NO_TOKEN;
-        }
-
-        private static boolean isLetter(int sign) {
-            return sign >= 'a' && sign <= 'z';
-        }
-
-        private static boolean isDigit(int sign) {
-            return sign >= '0' && sign <= '9';
+            if (end > start) {
+                kind = end - start > LONGEST_NUMBER ? NO_TOKEN : NUMBER;
+                return;
+            }
+            kind = END;
+            if (start < length) {
+                value = text[start];
+                end = start + 1;
+                kind = value == ';' || value == '<' || value == '>' || value == '=' ? SIGN : NO_TOKEN;
+            }
         }
 
         /** Tells a FAULT at this TOKEN; what is no TOKEN is of the least kind, whatever was wanted there. */
@@ -1720,7 +1704,11 @@ public final class FogKeys {
         }
 
         boolean takeWord(String word) {
-            return tryWord(word) || refuse(2);
+            if (!isWord(word)) {
+                return refuse(2);
+            }
+            advance();
+            return true;
         }
 
         boolean takeSemicolon() {
@@ -1744,18 +1732,17 @@ public final class FogKeys {
         }
 
         boolean isName() {
-            return kind == WORD && end - start <= LONGEST_NAME && !isReserved();
-        }
-
-        private boolean isReserved() {
             int size = end - start;
+            if (kind != WORD || size > LONGEST_NAME) {
+                return false;
+            }
             for (int i = 0; i + size + 1 < RESERVED.length(); i++) {
                 boolean isBetweenBlanks = RESERVED.charAt(i) == ' ' && RESERVED.charAt(i + size + 1) == ' ';
                 if (isBetweenBlanks && isSameAt(RESERVED, i + 1)) {
-                    return true;
+                    return false;
                 }
             }
-            return false;
+            return true;
         }
 
         /** A NAME as a number: five bits a letter, so that no two are the same. */
@@ -2052,7 +2039,8 @@ public final class FogKeys {
             }
             scanner.advance();
             plan.sorts[plan.size] = sort;
-            if (!readRest(plan, port, sort)) {
+            boolean is = sort == Nights.WHEN_FOGGY ? readTest(plan, port) : readRest(plan, port, sort);
+            if (!is) {
                 return false;
             }
             if (isBeginning) {
@@ -2101,8 +2089,6 @@ public final class FogKeys {
                     return scanner.takeNumber(plan.numbers, plan.size, 0, DIRECTIONS);
                 case Nights.LOOP:
                     return scanner.takeNumber(plan.numbers, plan.size, 1, 99);
-                case Nights.WHEN_FOGGY:
-                    return readTest(plan, port);
                 default:
                     return true;
             }
