@@ -198,6 +198,12 @@ public final class PlansTest {
             "#..##",
             "..###");
         Kit.due("given up in part", w.watch(1, 0, 2, 2), 2);
+        FogKeys v = pictured(
+            ".#.#.",
+            "#####",
+            "#.#.#",
+            "#.###");
+        Kit.due("given up over several boards", v.watch(3, 1, 1, 3), 2);
     }
 
     // Promise 42.
