@@ -493,23 +493,9 @@ public final class FogEdgesTest {
         Kit.due("then none", six.turnSet(1, 1), 0);
     }
 
-    /** Boards that are foggy stand as #, row by row. */
-    private static FogKeys pictured(String... rows) {
-        FogKeys x = Kit.ported("port " + rows[0].length() + " by " + rows.length + ";foggy 10;thins 0;ship a at 0 0 to 0 0;"
-            + "ship b at 0 0 to 0 0 dark;");
-        for (int row = 0; row < rows.length; row++) {
-            for (int column = 0; column < rows[row].length(); column++) {
-                if (rows[row].charAt(column) == '#') {
-                    x.breathe(column, row, 1, 10);
-                }
-            }
-        }
-        return x;
-    }
-
     // "(the first is not asked or counted)".
     private static void wayFromABoardToItself() {
-        FogKeys x = pictured(".#");
+        FogKeys x = Kit.pictured(".#");
         for (int column = 0; column < 2; column++) {
             for (int road = 0; road < 3; road++) {
                 Kit.due("from " + column + " to itself by " + road, x.way(column, 0, column, 0, road), 0);
@@ -524,21 +510,21 @@ public final class FogEdgesTest {
 
     // "2 by all: a CLEAR board counts 1, a FOGGY one 3".
     private static void wayByAllCounts() {
-        FogKeys x = pictured(".#.", "...");
+        FogKeys x = Kit.pictured(".#.", "...");
         Kit.due("around is as far as through", x.way(0, 0, 2, 0, 2), 4);
-        FogKeys y = pictured(".#.", ".#.", "...");
+        FogKeys y = Kit.pictured(".#.", ".#.", "...");
         Kit.due("through is nearer", y.way(0, 0, 2, 0, 2), 4);
-        FogKeys z = pictured(".##.", "....");
+        FogKeys z = Kit.pictured(".##.", "....");
         Kit.due("around is nearer", z.way(0, 0, 3, 0, 2), 5);
         Kit.due("into fog", z.way(0, 0, 2, 0, 2), 6);
-        FogKeys whole = pictured("######", "######", "######", "######", "######");
+        FogKeys whole = Kit.pictured("######", "######", "######", "######", "######");
         Kit.due("the farthest", whole.way(0, 0, 5, 4, 2), 27);
         Kit.due("the farthest by fog", whole.way(5, 0, 0, 4, 1), 9);
     }
 
     // "0 by CLEAR boards alone, 1 by FOGGY ones alone".
     private static void wayByFogOrClear() {
-        FogKeys x = pictured(
+        FogKeys x = Kit.pictured(
             "......",
             "#####.",
             "......",
@@ -547,7 +533,7 @@ public final class FogEdgesTest {
         Kit.due("the longest by clear ones", x.way(0, 0, 5, 4, 0), 19);
         Kit.due("and back", x.way(5, 4, 0, 0, 0), 19);
         Kit.refused("none by fog", x, x.way(0, 0, 5, 4, 1), 8);
-        FogKeys y = pictured(
+        FogKeys y = Kit.pictured(
             "######",
             ".....#",
             "######",
@@ -562,8 +548,6 @@ public final class FogEdgesTest {
     private static void sailStaysOrGoes() {
         for (int side = 1; side <= 4; side++) {
             for (int steps = 1; steps <= 2; steps++) {
-                FogKeys x = pictured(".....", ".....", ".....", ".....", ".....");
-                x.tow(0, 2 + steps * COLUMNS[side], 2 + steps * ROWS[side]);
                 FogKeys y = Kit.ported("port 5 by 5;ship a at " + (2 + steps * COLUMNS[side]) + " " + (2 + steps * ROWS[side])
                     + " to 2 2;");
                 Kit.due("sail by side " + side, y.sail(0), steps);
@@ -572,7 +556,7 @@ public final class FogEdgesTest {
         FogKeys far = Kit.ported("port 6 by 5;ship a at 5 0 to 0 4;ship b at 3 3 to 3 3;");
         Kit.due("not across", far.sail(0), 9);
         Kit.due("there", far.sail(1), 0);
-        FogKeys there = pictured("..");
+        FogKeys there = Kit.pictured("..");
         Kit.due("where it is now is not asked", there.sail(1), 0);
         FogKeys wait = Kit.ported("port 2 by 1;ship a at 0 0 to 1 0;foggy 10;thins 1;");
         wait.breathe(1, 0, 0, 8);
@@ -598,21 +582,21 @@ public final class FogEdgesTest {
 
     // "on one of which at least each road of FOGGY boards between them comes": none where there is no road.
     private static void watchOfNothing() {
-        FogKeys x = pictured("......", "......", "......");
+        FogKeys x = Kit.pictured("......", "......", "......");
         Kit.due("all clear", x.watch(0, 0, 5, 2), 0);
-        FogKeys y = pictured("#.#");
+        FogKeys y = Kit.pictured("#.#");
         Kit.due("the board between is clear", y.watch(0, 0, 2, 0), 0);
-        FogKeys z = pictured(".#.");
+        FogKeys z = Kit.pictured(".#.");
         Kit.due("the two themselves are not asked", z.watch(0, 0, 2, 0), 1);
-        FogKeys across = pictured(".#", "..");
+        FogKeys across = Kit.pictured(".#", "..");
         Kit.due("across by one board", across.watch(0, 0, 1, 1), 1);
-        FogKeys both = pictured(".#", "#.");
+        FogKeys both = Kit.pictured(".#", "#.");
         Kit.due("across by two boards", both.watch(0, 0, 1, 1), 2);
     }
 
     // "none can do it, if the two are beside each other".
     private static void watchBesideOrOne() {
-        FogKeys x = pictured("###", "###", "###");
+        FogKeys x = Kit.pictured("###", "###", "###");
         for (int column = 0; column < 3; column++) {
             for (int row = 0; row < 3; row++) {
                 int far = Math.abs(column - 1) + Math.abs(row - 1);
@@ -621,7 +605,7 @@ public final class FogEdgesTest {
                 Kit.due("to the middle", x.watch(column, row, 1, 1), far < 2 ? -1 : 2);
             }
         }
-        FogKeys around = pictured("###", "###");
+        FogKeys around = Kit.pictured("###", "###");
         Kit.due("the last of a row is not beside the first of the next", around.watch(2, 0, 0, 1), 2);
     }
 
@@ -650,7 +634,7 @@ public final class FogEdgesTest {
             for (int i = 0; i < 9; i++) {
                 rows[i / 3] += (picture >> i & 1) == 1 ? "#" : ".";
             }
-            FogKeys x = pictured(rows);
+            FogKeys x = Kit.pictured(rows);
             for (int[] end : ends) {
                 int least = 9;
                 for (int watched = 0; watched < 512; watched++) {
@@ -724,7 +708,7 @@ public final class FogEdgesTest {
                     continue;
                 }
                 int[] ends = endsOf(rows);
-                FogKeys x = pictured(rows);
+                FogKeys x = Kit.pictured(rows);
                 Kit.due("picture " + i + " turned " + turn, x.watch(ends[0], ends[1], ends[2], ends[3]), due[i]);
                 Kit.due("from the other end", x.watch(ends[2], ends[3], ends[0], ends[1]), due[i]);
             }
@@ -821,38 +805,25 @@ public final class FogEdgesTest {
         }
     }
 
-    private static FogKeys keyed(int gates, long... tries) {
-        StringBuilder text = new StringBuilder("port 1 by 1;");
-        for (int i = 0; i < gates; i++) {
-            text.append("gate ").append((char) ('a' + i)).append(" at 0 0 lets 1;");
-        }
-        FogKeys x = Kit.ported(text.toString());
-        x.tray(0, 1, tries.length);
-        for (int i = 0; i < tries.length; i++) {
-            x.write(0, i, tries[i]);
-        }
-        return x;
-    }
-
     // "KEYS 0 .. fit one GATE each, none two the same (as many as GATES)".
     private static void keysOfOneToSix() {
         int[] ways = {1, 1, 2, 6, 24, 120, 720};
         for (int gates = 1; gates <= 6; gates++) {
             for (int key = 0; key < gates; key++) {
                 for (int gate = 0; gate < gates; gate++) {
-                    FogKeys x = keyed(gates, 100 * key + 10 * gate + 1, 100 * key + 10 * gate);
+                    FogKeys x = Kit.keyed(gates, 100 * key + 10 * gate + 1, 100 * key + 10 * gate);
                     Kit.due("fits", x.fits(0, 1), ways[gates - 1]);
                     Kit.due("known", x.known(key, 0, 1), gate);
                     Kit.due("fits and fits not", x.fits(0, 2), 0);
                     Kit.fraction("chance", x, x.chance(key, gate, 0, 1), 1, 1);
                     Kit.fraction("chance by none", x, x.chance(key, gate, 0, 0), 1, gates);
-                    FogKeys not = keyed(gates, 100 * key + 10 * gate);
+                    FogKeys not = Kit.keyed(gates, 100 * key + 10 * gate);
                     Kit.due("fits not", not.fits(0, 1), ways[gates] - ways[gates - 1]);
                 }
             }
             long[] beyond = {100 * gates, 100 * gates + 1, 10 * gates, 10 * gates + 1, 2, 9, -1, -10, -100};
             for (long v : beyond) {
-                FogKeys x = keyed(gates, v);
+                FogKeys x = Kit.keyed(gates, v);
                 Kit.refused("a number that is no try: " + v, x, x.fits(0, 1), 5);
                 Kit.due("not asked", x.fits(0, 0), ways[gates]);
             }
@@ -861,16 +832,16 @@ public final class FogEdgesTest {
 
     // "the KEY and the GATE that leave the fewest ways at worst; of several the least KEY, then GATE; none, if there are not two ways".
     private static void nextOfTwoWays() {
-        FogKeys two = keyed(2);
+        FogKeys two = Kit.keyed(2);
         Kit.due("two ways", two.next(0, 0), 0);
-        FogKeys one = keyed(2, 0);
+        FogKeys one = Kit.keyed(2, 0);
         Kit.due("one way", one.fits(0, 1), 1);
         Kit.refused("one way", one, one.next(0, 1), 8);
-        FogKeys none = keyed(2, 0, 1);
+        FogKeys none = Kit.keyed(2, 0, 1);
         Kit.refused("no way", none, none.next(0, 2), 8);
-        FogKeys last = keyed(6, 1, 111, 221, 331);
+        FogKeys last = Kit.keyed(6, 1, 111, 221, 331);
         Kit.due("the last two", last.next(0, 4), 44);
-        FogKeys six = keyed(6, 551, 441, 331, 110);
+        FogKeys six = Kit.keyed(6, 551, 441, 331, 110);
         Kit.due("four ways", six.fits(0, 4), 4);
         // Key 0 fits gate 0 in one of these ways, gate 1 in two, gate 2 in one.
         Kit.due("two are left by the least key", six.next(0, 4), 1);

@@ -92,6 +92,41 @@ final class Kit {
         refused(what + ": the tape is empty", x, x.port(1), 5);
     }
 
+    /** A PORT whose boards that stand as # are foggy, row by row; a ship and a dark one are there. */
+    static FogKeys pictured(String... rows) {
+        FogKeys x = ported("port " + rows[0].length() + " by " + rows.length + ";foggy 10;thins 0;ship a at 0 0 to 0 0;"
+            + "ship b at 0 0 to 0 0 dark;");
+        for (int row = 0; row < rows.length; row++) {
+            for (int column = 0; column < rows[row].length(); column++) {
+                if (rows[row].charAt(column) == '#') {
+                    x.breathe(column, row, 1, 10);
+                }
+            }
+        }
+        return x;
+    }
+
+    /** A PORT of so many GATES, and tries in TRAY 0. */
+    static FogKeys keyed(int gates, long... tries) {
+        StringBuilder text = new StringBuilder("port 1 by 1;");
+        for (int i = 0; i < gates; i++) {
+            text.append("gate ").append((char) ('a' + i)).append(" at 0 0 lets 1;");
+        }
+        FogKeys x = ported(text.toString());
+        x.tray(0, 2, tries.length);
+        for (int i = 0; i < tries.length; i++) {
+            x.write(0, i, tries[i]);
+        }
+        return x;
+    }
+
+    /** What lived() tells, as far as it is named here. */
+    static void facts(String what, FogKeys x, int... due) {
+        for (int i = 0; i < due.length; i++) {
+            due(what + ": lived(" + i + ")", x.lived(i), due[i]);
+        }
+    }
+
     static void end() {
         System.out.println(wrong == 0 ? asked + " answers are as due" : wrong + " of " + asked + " answers are not as due");
         if (wrong != 0) {

@@ -58,12 +58,6 @@ public final class NightEdgesTest {
         Kit.nightsFault(Kit.ported(PORT), text, kind);
     }
 
-    private static void facts(String what, FogKeys x, int... due) {
-        for (int i = 0; i < due.length; i++) {
-            Kit.due(what + ": lived(" + i + ")", x.lived(i), due[i]);
-        }
-    }
-
     // "(none at first)"
     private static void noneAtFirst() {
         FogKeys x = new FogKeys();
@@ -350,16 +344,16 @@ public final class NightEdgesTest {
         FogKeys x = atHour(9975, "hour 24;");
         x.live(0);
         Kit.due("just 9,999", x.many(9), 9999);
-        facts("just 9,999", x, 0, 24);
+        Kit.facts("just 9,999", x, 0, 24);
         FogKeys y = atHour(9976, "hour 24;hour 23;hour 1;");
         int foggy = y.many(13);
         Kit.due("one too many", y.live(0), 3);
-        facts("one too many", y, 2, 23, 23 * foggy, 0, 0);
+        Kit.facts("one too many", y, 2, 23, 23 * foggy, 0, 0);
         Kit.due("the hour", y.many(9), 9999);
         FogKeys z = atHour(9999, "hour 1;hour 24;");
         int wool = z.many(11);
         Kit.due("no hour is left", z.live(0), 2);
-        facts("no hour is left", z, 2, 0, 0, 0, 0);
+        Kit.facts("no hour is left", z, 2, 0, 0, 0, 0);
         Kit.due("none went by", z.many(11), wool);
     }
 
@@ -367,7 +361,7 @@ public final class NightEdgesTest {
     private static void openOfOpenIsMissed() {
         FogKeys x = lively("open sea;open old;open old;");
         Kit.due("live", x.live(0), 3);
-        facts("open", x, 2);
+        Kit.facts("open", x, 2);
         Kit.due("many(10)", x.many(10), 3);
     }
 
@@ -375,7 +369,7 @@ public final class NightEdgesTest {
     private static void shutOfShutIsMissed() {
         FogKeys x = lively("shut old;shut sea;shut sea;");
         Kit.due("live", x.live(0), 3);
-        facts("shut", x, 2);
+        Kit.facts("shut", x, 2);
         Kit.due("many(10)", x.many(10), 0);
     }
 
@@ -383,7 +377,7 @@ public final class NightEdgesTest {
     private static void windThatBlowsIsMissed() {
         FogKeys x = lively("wind 0;wind 3;wind 3;wind 0;");
         Kit.due("live", x.live(0), 4);
-        facts("wind", x, 2);
+        Kit.facts("wind", x, 2);
         Kit.due("many(6)", x.many(6), 0);
     }
 
@@ -391,7 +385,7 @@ public final class NightEdgesTest {
     private static void missedStepsAreStepsToo() {
         FogKeys x = lively("loop 50;open sea;end;");
         Kit.due("live", x.live(0), 51);
-        facts("missed", x, 50, 0, 0, 0, 0);
+        Kit.facts("missed", x, 50, 0, 0, 0, 0);
     }
 
     // "(when, loop count as one each time they are come to from ahead; end does not)"
@@ -437,7 +431,7 @@ public final class NightEdgesTest {
         Kit.due("lived(4)", y.lived(4), 0);
         FogKeys z = lively("loop 1;loop 99;hour 24;storm;end;loop 99;hour 1;end;hour 2;end;");
         Kit.due("what is left is not done", z.live(0), 300);
-        facts("left", z, 0, 99 * 24 + 99, z.lived(2), 99, 1);
+        Kit.facts("left", z, 0, 99 * 24 + 99, z.lived(2), 99, 1);
         Kit.due("the hour", z.many(9), 99 * 24 + 99);
     }
 
@@ -493,7 +487,7 @@ public final class NightEdgesTest {
             }
             Kit.due("wind by " + seed, x.many(6), wind);
             Kit.due("gates by " + seed, x.many(10), open);
-            facts("storms by " + seed, x, 0, 0, 0, 3, 0);
+            Kit.facts("storms by " + seed, x, 0, 0, 0, 3, 0);
         }
         // Without gates the draws are of winds alone.
         FogKeys none = Kit.ported("port 1 by 1;");
@@ -507,7 +501,7 @@ public final class NightEdgesTest {
         FogKeys x = lively("storm;");
         for (int i = 0; i < 3; i++) {
             x.live(5);
-            facts("storm", x, 0, 0, 0, 1, 0);
+            Kit.facts("storm", x, 0, 0, 0, 1, 0);
         }
     }
 
@@ -537,18 +531,18 @@ public final class NightEdgesTest {
         Kit.refused("there was none with status 0", x, x.lived(0), 8);
         x.mark();
         x.live(1);
-        facts("live", x, 0, 2, x.lived(2), 1, 0);
+        Kit.facts("live", x, 0, 2, x.lived(2), 1, 0);
         Kit.nights(x, "hour 3;wind 9;");
         x.live(10000);
         x.mean(0, 20);
         x.back();
-        facts("whatever came since", x, 0, 2, x.lived(2), 1, 0);
+        Kit.facts("whatever came since", x, 0, 2, x.lived(2), 1, 0);
         Kit.port(x, "port 1 by 1;");
         x.live(0);
-        facts("a live with status 8", x, 0, 2, x.lived(2), 1, 0);
+        Kit.facts("a live with status 8", x, 0, 2, x.lived(2), 1, 0);
         Kit.nights(x, "");
         x.live(0);
-        facts("of no steps", x, 0, 0, 0, 0, 0);
+        Kit.facts("of no steps", x, 0, 0, 0, 0, 0);
         for (int what : new int[] {-1, 5, Integer.MIN_VALUE, Integer.MAX_VALUE}) {
             Kit.refused("lived(" + what + ")", x, x.lived(what), 5);
         }
@@ -576,17 +570,17 @@ public final class NightEdgesTest {
             sum += y.many(13);
         }
         x.live(3);
-        facts("together", x, 0, 35, sum, 1, 0);
+        Kit.facts("together", x, 0, 35, sum, 1, 0);
         FogKeys same = Kit.ported("port 2 by 1;gate a at 0 0 lets 40 open;thins 0;foggy 9;");
         Kit.nights(same, "hour 24;hour 24;");
         for (int i = 0; i < 40; i++) {
             same.hour(48);
         }
         same.live(0);
-        facts("hours that change nothing count too", same, 0, 48, 96, 0, 0);
+        Kit.facts("hours that change nothing count too", same, 0, 48, 96, 0, 0);
         FogKeys missed = atHour(9999, "hour 1;");
         missed.live(0);
-        facts("missed ones don't count", missed, 1, 0, 0, 0, 0);
+        Kit.facts("missed ones don't count", missed, 1, 0, 0, 0, 0);
     }
 
     // "by so many seeds (1 to 20) from one on", "(5: the last above 9,999, too"

@@ -18,38 +18,25 @@ public final class NightsTest {
         Kit.end();
     }
 
-    private static FogKeys keyed(int gates, long... tries) {
-        StringBuilder text = new StringBuilder("port 1 by 1;");
-        for (int i = 0; i < gates; i++) {
-            text.append("gate ").append((char) ('a' + i)).append(" at 0 0 lets 1;");
-        }
-        FogKeys x = Kit.ported(text.toString());
-        x.tray(0, 2, tries.length);
-        for (int i = 0; i < tries.length; i++) {
-            x.write(0, i, tries[i]);
-        }
-        return x;
-    }
-
     // Promise 49.
     private static void keysFit() {
         int[] all = {1, 1, 2, 6, 24, 120, 720};
         for (int gates = 0; gates <= 6; gates++) {
-            FogKeys x = keyed(gates);
+            FogKeys x = Kit.keyed(gates);
             Kit.due("fits of " + gates, x.fits(0, 0), all[gates]);
         }
-        FogKeys x = keyed(4, 0, 121, 300, 101);
+        FogKeys x = Kit.keyed(4, 0, 121, 300, 101);
         Kit.due("a try that failed", x.fits(0, 1), 18);
         Kit.due("a try that fitted", x.fits(0, 2), 4);
         Kit.due("only the first n", x.fits(0, 3), 2);
         Kit.due("a key that fits two", x.fits(0, 4), 0);
         Kit.due("status()", x.status(), 0);
-        FogKeys y = keyed(3, 1, 101);
+        FogKeys y = Kit.keyed(3, 1, 101);
         Kit.due("two keys, one gate", y.fits(0, 2), 0);
-        FogKeys six = keyed(6, 500, 510, 520, 530, 540, 451);
+        FogKeys six = Kit.keyed(6, 500, 510, 520, 530, 540, 451);
         Kit.due("all but one of the last key", six.fits(0, 5), 120);
         Kit.due("the last gate is taken", six.fits(0, 6), 0);
-        FogKeys each = keyed(6, 1, 111, 221, 331, 440);
+        FogKeys each = Kit.keyed(6, 1, 111, 221, 331, 440);
         Kit.due("two are left", each.fits(0, 4), 2);
         Kit.due("one is left", each.fits(0, 5), 1);
         Kit.due("the last key", each.known(5, 0, 5), 4);
@@ -63,38 +50,38 @@ public final class NightsTest {
 
     // Promise 50.
     private static void keysAreKnown() {
-        FogKeys x = keyed(3, 110, 120, 0);
+        FogKeys x = Kit.keyed(3, 110, 120, 0);
         Kit.due("known(1)", x.known(1, 0, 2), 0);
         Kit.refused("not known", x, x.known(0, 0, 2), 8);
         Kit.refused("not known", x, x.known(1, 0, 1), 8);
-        FogKeys y = keyed(3, 111, 1);
+        FogKeys y = Kit.keyed(3, 111, 1);
         Kit.due("what is left", y.known(2, 0, 2), 2);
-        FogKeys none = keyed(2, 1, 0);
+        FogKeys none = Kit.keyed(2, 1, 0);
         Kit.refused("no way", none, none.known(0, 0, 2), 8);
-        FogKeys one = keyed(1);
+        FogKeys one = Kit.keyed(1);
         Kit.due("one key alone", one.known(0, 0, 0), 0);
     }
 
     // Promise 51.
     private static void nextTry() {
-        FogKeys x = keyed(3, 0, 120);
+        FogKeys x = Kit.keyed(3, 0, 120);
         Kit.due("next by none", x.next(0, 0), 0);
         // Without 0 to 0: four ways, 1 2 0, 1 0 2, 2 0 1, 2 1 0 by keys: two each by key 0.
         Kit.due("next by one", x.next(0, 1), 1);
         Kit.due("next by two", x.next(0, 2), 1);
-        FogKeys y = keyed(3, 1);
+        FogKeys y = Kit.keyed(3, 1);
         Kit.due("what is known tells nothing", y.next(0, 1), 11);
-        FogKeys z = keyed(3, 1, 111);
+        FogKeys z = Kit.keyed(3, 1, 111);
         Kit.refused("one way", z, z.next(0, 2), 8);
-        FogKeys none = keyed(3, 1, 11);
+        FogKeys none = Kit.keyed(3, 1, 11);
         Kit.refused("no way", none, none.next(0, 2), 8);
-        FogKeys nothing = keyed(0);
+        FogKeys nothing = Kit.keyed(0);
         Kit.refused("no keys", nothing, nothing.next(0, 0), 8);
     }
 
     // Promise 52.
     private static void chanceOfKeys() {
-        FogKeys x = keyed(4, 0, 121);
+        FogKeys x = Kit.keyed(4, 0, 121);
         Kit.fraction("chance", x, x.chance(0, 0, 0, 0), 1, 4);
         Kit.fraction("chance", x, x.chance(0, 0, 0, 1), 0, 1);
         Kit.fraction("chance", x, x.chance(0, 1, 0, 1), 1, 3);
@@ -106,7 +93,7 @@ public final class NightsTest {
         Kit.refused("missing", x, x.chance(0, 0, 1, 9), 3);
         Kit.refused("too few", x, x.chance(0, 0, 0, 3), 4);
         Kit.refused("below 0", x, x.chance(0, 0, 0, -1), 5);
-        FogKeys none = keyed(2, 1, 0);
+        FogKeys none = Kit.keyed(2, 1, 0);
         Kit.refused("no way", none, none.chance(0, 0, 0, 2), 8);
         Kit.due("the fraction stays", x.bottom(), 2);
     }
@@ -114,7 +101,7 @@ public final class NightsTest {
     private static void triesAreRefused() {
         long[] bad = {-1, 2, 9, 30, 300, 311, 12, 1000, 1L << 33, -100};
         for (long v : bad) {
-            FogKeys x = keyed(3);
+            FogKeys x = Kit.keyed(3);
             x.tray(0, 3, 2);
             x.write(0, 1, v);
             Kit.due("fits ahead of " + v, x.fits(0, 1), 4);
@@ -123,7 +110,7 @@ public final class NightsTest {
             Kit.refused("next with " + v, x, x.next(0, 2), 5);
             Kit.refused("chance with " + v, x, x.chance(0, 0, 0, 2), 5);
         }
-        FogKeys x = keyed(3, 0);
+        FogKeys x = Kit.keyed(3, 0);
         Kit.refused("fits(4, 0)", x, x.fits(4, 0), 1);
         Kit.refused("fits(1, 99)", x, x.fits(1, 99), 3);
         Kit.refused("fits(0, 2)", x, x.fits(0, 2), 4);
@@ -139,14 +126,8 @@ public final class NightsTest {
         Kit.refused("next(2, 0)", x, x.next(2, 0), 3);
         Kit.refused("next(0, 2)", x, x.next(0, 2), 4);
         Kit.refused("next(0, -1)", x, x.next(0, -1), 5);
-        FogKeys none = keyed(0, 0);
+        FogKeys none = Kit.keyed(0, 0);
         Kit.refused("no keys at all", none, none.fits(0, 1), 5);
-    }
-
-    private static void facts(String what, FogKeys x, int... due) {
-        for (int i = 0; i < 5; i++) {
-            Kit.due(what + ": lived(" + i + ")", x.lived(i), due[i]);
-        }
     }
 
     // Promise 53.
@@ -160,9 +141,9 @@ public final class NightsTest {
         Kit.due("hour", x.many(9), 3);
         // 11, 20 at the gate, then wind takes a quarter, less 1.
         Kit.due("fog", x.fog(0, 0, 0), 14);
-        facts("steps", x, 0, 3, 3, 0, 0);
+        Kit.facts("steps", x, 0, 3, 3, 0, 0);
         Kit.due("again from there", x.live(0), 5);
-        facts("again", x, 3, 3, 3, 0, 0);
+        Kit.facts("again", x, 3, 3, 3, 0, 0);
         Kit.refused("live(-1)", x, x.live(-1), 5);
         Kit.refused("live(10000)", x, x.live(10000), 5);
         Kit.due("live(9999)", x.live(9999), 5);
@@ -173,14 +154,14 @@ public final class NightsTest {
         Kit.due("nights without steps", none.live(0), 0);
         Kit.nights(x, "hour 1; stop; hour 1;");
         Kit.due("stop is come to", x.live(0), 2);
-        facts("stop", x, 0, 1, x.many(13), 0, 0);
+        Kit.facts("stop", x, 0, 1, x.many(13), 0, 0);
     }
 
     private static void stepsAreMissed() {
         FogKeys x = Kit.ported(Kit.BASE);
         Kit.nights(x, "open sea; shut old; wind 0; wind 1; wind 1; shut sea; shut sea; open old; open old;");
         Kit.due("missed ones count", x.live(0), 9);
-        facts("missed", x, 6, 0, 0, 0, 0);
+        Kit.facts("missed", x, 6, 0, 0, 0, 0);
         Kit.due("gates", x.many(10), 2);
     }
 
@@ -202,7 +183,7 @@ public final class NightsTest {
         }
         Kit.nights(x, "loop 3; loop 2; wind 1; end; wind 1; end; loop 99; end;");
         Kit.due("1 and 3 times 1 and 2 and 1, and 1", x.live(0), 14);
-        facts("loops", x, 9, 0, 0, 0, 0);
+        Kit.facts("loops", x, 9, 0, 0, 0, 0);
         Kit.nights(x, "loop 5; wind 2; when lets 0 0 = 0; wind 1; end; stop; end;");
         Kit.due("stop within", x.live(0), 5);
     }
@@ -211,44 +192,44 @@ public final class NightsTest {
         FogKeys x = Kit.ported("port 1 by 1;");
         Kit.nights(x, "loop 99;wind 0;wind 0;end;loop 99;wind 0;end;wind 0;");
         Kit.due("1 and 198 and 1 and 99 and 1", x.live(0), 300);
-        facts("just 300", x, 298, 0, 0, 0, 0);
+        Kit.facts("just 300", x, 298, 0, 0, 0, 0);
         Kit.nights(x, "loop 99;wind 0;wind 0;end;loop 99;wind 0;end;wind 0;wind 0;");
         Kit.due("one more", x.live(0), 300);
-        facts("one is left", x, 298, 0, 0, 0, 1);
+        Kit.facts("one is left", x, 298, 0, 0, 0, 1);
         Kit.nights(x, "loop 99;wind 0;wind 0;end;loop 99;wind 0;end;when foggy 0 0;wind 0;end;");
         Kit.due("a when that is not entered", x.live(0), 300);
-        facts("nothing is left", x, 297, 0, 0, 0, 0);
+        Kit.facts("nothing is left", x, 297, 0, 0, 0, 0);
         Kit.nights(x, "loop 99;wind 0;wind 0;end;loop 99;wind 0;end;stop;wind 0;");
         Kit.due("a stop at the end", x.live(0), 300);
-        facts("nothing is left by stop", x, 297, 0, 0, 0, 0);
+        Kit.facts("nothing is left by stop", x, 297, 0, 0, 0, 0);
         Kit.nights(x, "loop 99;loop 99;loop 99;end;end;end;");
         Kit.due("loops of nothing", x.live(0), 300);
-        facts("left", x, 0, 0, 0, 0, 1);
+        Kit.facts("left", x, 0, 0, 0, 0, 1);
         Kit.nights(x, "loop 99;wind 0;wind 0;end;loop 99;wind 0;end;loop 99;end;");
         Kit.due("the last is a loop of nothing", x.live(0), 300);
-        facts("nothing is left", x, 297, 0, 0, 0, 0);
+        Kit.facts("nothing is left", x, 297, 0, 0, 0, 0);
         Kit.nights(x, "loop 1;loop 99;wind 0;wind 0;end;loop 99;wind 0;end;end;");
         Kit.due("ends are none", x.live(0), 300);
-        facts("nothing is left", x, 297, 0, 0, 0, 0);
+        Kit.facts("nothing is left", x, 297, 0, 0, 0, 0);
         Kit.nights(x, "loop 2;loop 99;wind 0;wind 0;end;loop 99;wind 0;end;end;");
         Kit.due("once more", x.live(0), 300);
-        facts("left", x, 297, 0, 0, 0, 1);
+        Kit.facts("left", x, 297, 0, 0, 0, 1);
     }
 
     private static void hoursHaveAnEnd() {
         FogKeys x = Kit.ported("port 1 by 1;gate a at 0 0 lets 40 open;");
         Kit.nights(x, "loop 99;hour 24;hour 24;end;");
         Kit.due("live", x.live(0), 199);
-        facts("hours", x, 0, 4752, 4752, 0, 0);
+        Kit.facts("hours", x, 0, 4752, 4752, 0, 0);
         x.live(0);
         Kit.due("many(9)", x.many(9), 9504);
         x.live(0);
         Kit.due("hours beyond are missed as a whole", x.many(9), 9984);
-        facts("missed", x, 178, 480, 480, 0, 0);
+        Kit.facts("missed", x, 178, 480, 480, 0, 0);
         Kit.nights(x, "hour 16; hour 15; hour 1;");
         Kit.due("live", x.live(0), 3);
         Kit.due("many(9)", x.many(9), 9999);
-        facts("missed", x, 2, 15, 15, 0, 0);
+        Kit.facts("missed", x, 2, 15, 15, 0, 0);
     }
 
     private static void stormsDraw() {
@@ -264,7 +245,7 @@ public final class NightsTest {
         Kit.due("the first draw", draws[0], 1333);
         Kit.due("wind", x.many(6), 3);
         Kit.due("gates", x.many(10), draws[1] % 2 + draws[2] % 2 * 2 + draws[3] % 2 * 4);
-        facts("storms", x, 0, 0, 0, 1, 0);
+        Kit.facts("storms", x, 0, 0, 0, 1, 0);
         Kit.nights(x, "storm; storm;");
         x.live(9999);
         s = 9999;
@@ -274,7 +255,7 @@ public final class NightsTest {
         }
         Kit.due("draws go on: wind", x.many(6), draws[0] % 5);
         Kit.due("draws go on: gates", x.many(10), draws[1] % 2 + draws[2] % 2 * 2 + draws[3] % 2 * 4);
-        facts("storms", x, 0, 0, 0, 2, 0);
+        Kit.facts("storms", x, 0, 0, 0, 2, 0);
     }
 
     // Promise 54.
@@ -287,19 +268,19 @@ public final class NightsTest {
         x.live(3);
         int missed = x.lived(0);
         // 1, 1, 1, 3 boards were foggy.
-        facts("lived", x, missed, 4, 6, 1, 0);
+        Kit.facts("lived", x, missed, 4, 6, 1, 0);
         Kit.refused("lived(-1)", x, x.lived(-1), 5);
         Kit.refused("lived(5)", x, x.lived(5), 5);
         x.back();
-        facts("whatever came since", x, missed, 4, 6, 1, 0);
+        Kit.facts("whatever came since", x, missed, 4, 6, 1, 0);
         x.live(10000);
         x.live(0);
         x.port(0);
-        facts("whatever came since", x, missed, 4, 6, 1, 0);
+        Kit.facts("whatever came since", x, missed, 4, 6, 1, 0);
         Kit.port(x, Kit.BASE);
         Kit.nights(x, "hour 1;");
         x.mean(0, 1);
-        facts("mean() is none", x, missed, 4, 6, 1, 0);
+        Kit.facts("mean() is none", x, missed, 4, 6, 1, 0);
     }
 
     // Promise 55.

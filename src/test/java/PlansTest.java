@@ -77,23 +77,9 @@ public final class PlansTest {
         Kit.due("the second the least", y.turnSet(23, 1), 1);
     }
 
-    /** Makes boards foggy by a picture, row by row. */
-    private static FogKeys pictured(String... rows) {
-        FogKeys x = Kit.ported("port " + rows[0].length() + " by " + rows.length + ";ship a at 0 0 to 1 0;ship b at 0 0 to 1 0 dark;"
-            + "thins 0;");
-        for (int row = 0; row < rows.length; row++) {
-            for (int column = 0; column < rows[row].length(); column++) {
-                if (rows[row].charAt(column) == '#') {
-                    x.breathe(column, row, 0, 10);
-                }
-            }
-        }
-        return x;
-    }
-
     // Promise 39.
     private static void waysAreCounted() {
-        FogKeys x = pictured(
+        FogKeys x = Kit.pictured(
             "..#...",
             ".##.#.",
             "#...#.");
@@ -163,7 +149,7 @@ public final class PlansTest {
 
     // Promise 41.
     private static void watchesClose() {
-        FogKeys x = pictured(
+        FogKeys x = Kit.pictured(
             "######",
             "######",
             "######",
@@ -178,13 +164,13 @@ public final class PlansTest {
         Kit.refused("no board", x, x.watch(6, 2, 6, 2), 2);
         Kit.refused("no board", x, x.watch(0, 0, 0, 5), 2);
         Kit.due("across", x.watch(0, 0, 1, 1), 2);
-        FogKeys y = pictured(
+        FogKeys y = Kit.pictured(
             ".#.##.",
             "####.#",
             ".#.###");
         Kit.due("the two are not asked", y.watch(0, 0, 5, 0), 1);
         Kit.due("one board closes it", y.watch(0, 0, 2, 2), 1);
-        FogKeys z = pictured(
+        FogKeys z = Kit.pictured(
             "##..##",
             "#.##.#",
             "##..##");
@@ -192,13 +178,13 @@ public final class PlansTest {
         Kit.due("one road around", z.watch(1, 0, 1, 2), 1);
         Kit.due("beside a clear board", z.watch(1, 1, 4, 1), 1);
         // The road that is found first must be given up in part for two to go.
-        FogKeys w = pictured(
+        FogKeys w = Kit.pictured(
             "#.###",
             "#####",
             "#..##",
             "..###");
         Kit.due("given up in part", w.watch(1, 0, 2, 2), 2);
-        FogKeys v = pictured(
+        FogKeys v = Kit.pictured(
             ".#.#.",
             "#####",
             "#.#.#",
