@@ -2274,7 +2274,7 @@ public final class FogKeys {
 
         private int draw(int by) {
             drawn = (drawn * 2971 + 10667) % 65536;
-            return drawn / 8 % by;
+            return by > 0 ? drawn / 8 % by : 0;
         }
 
         private boolean holds(Port port, int at) {

@@ -54,9 +54,12 @@ public final class LanguageTest {
             Kit.due("the constructor", c.getParameterCount(), 0);
             Kit.due("the constructor is public", Modifier.isPublic(c.getModifiers()), true);
         }
+        int fields = 0;
         for (Field f : FogKeys.class.getDeclaredFields()) {
+            fields += Modifier.isStatic(f.getModifiers()) ? 0 : 1;
             Kit.due("field " + f.getName(), Modifier.isPrivate(f.getModifiers()), !f.getName().equals("NONE"));
         }
+        Kit.due("FogKeys has some twenty fields: " + fields, fields <= 20, true);
     }
 
     private static void checkClasses(Set<String> names) {
